@@ -1209,6 +1209,8 @@ public final class LostRoom {
     private static final class Journeys {
         private final Thing[] tickets = new Thing[TICKETS];
         private int size;
+        /** By a TICKET: those (bits) that went to where it is from. */
+        private final int[] ahead = new int[TICKETS];
         /** By a set of TICKETS: those (bits) that can be the last of one journey by them all. */
         private int[] lasts;
         /** By a set of TICKETS: the first year in which such a journey can be over. */
@@ -1253,24 +1255,30 @@ public final class LostRoom {
                 over = new int[1 << TICKETS];
                 people = new int[1 << TICKETS];
             }
+            findAhead();
             for (int set = 1; set < 1 << size; set++) {
                 lasts[set] = 0;
                 over[set] = 0;
                 for (int last = 0; last < size; last++) {
                     if (!has(set, last)) continue;
                     over[set] = Math.max(over[set], tickets[last].from);
-                    if (canEnd(set & ~(1 << last), tickets[last])) lasts[set] |= 1 << last;
+                    if (canEnd(set & ~(1 << last), last)) lasts[set] |= 1 << last;
                 }
             }
         }
 
-        private boolean canEnd(int ahead, Thing last) {
-            if (ahead == 0) return true;
-            if (over[ahead] > last.till) return false;
+        private void findAhead() {
             for (int i = 0; i < size; i++) {
-                if (has(lasts[ahead], i) && tickets[i].number % 10 == last.number / 10) return true;
+                ahead[i] = 0;
+                for (int j = 0; j < size; j++) {
+                    if (tickets[j].number % 10 == tickets[i].number / 10) ahead[i] |= 1 << j;
+                }
             }
-            return false;
+        }
+
+        private boolean canEnd(int others, int last) {
+            if (others == 0) return true;
+            return over[others] <= tickets[last].till && (lasts[others] & ahead[last]) != 0;
         }
     }
 }
