@@ -246,19 +246,16 @@ public final class LostRoom {
 
     public int piling(int r) {
         if (!isRow(r)) return BAD;
-        int n = house.trunkCount;
-        int[] orders = ordersBehind();
-        if (orders[0] == 0) return NONE;
-        int[] first = new int[n];
+        int[] first = new int[house.trunkCount];
         int set = 0;
-        for (int place = 0; place < n; place++) {
-            int t = firstToFollow(set, orders);
+        for (int place = 0; place < first.length; place++) {
+            int t = firstToFollow(set);
             if (t == NONE) return NONE;
             first[place] = t;
             set |= 1 << t;
         }
         rows[r] = first;
-        return orders[0];
+        return ordersOfAll();
     }
 
     // ---- 3 whose trunks, lists
@@ -350,12 +347,12 @@ public final class LostRoom {
     }
 
     public int readings() {
-        return readingsBy(lineFits(), new int[1 << house.trunkCount]);
+        return readingsBy(trunksForLines(), new int[1 << house.trunkCount]);
     }
 
     public int lineOf(int l) {
         if (!within(l, 0, lineCount - 1)) return BAD;
-        int[] fitting = lineFits();
+        int[] fitting = trunksForLines();
         int[] table = new int[1 << house.trunkCount];
         int could = fitting[l];
         int set = 0;
@@ -657,8 +654,8 @@ public final class LostRoom {
         return !has(set, t) && (house.trunks[t].below & ~set) == 0;
     }
 
-    /** For each set of TRUNKS already piled, in how many orders the others can follow. */
-    private int[] ordersBehind() {
+    /** How many ORDERS there are. The table: for a set of TRUNKS already piled, how the others can follow. */
+    private int ordersOfAll() {
         int n = house.trunkCount;
         int[] orders = new int[1 << n];
         orders[orders.length - 1] = 1;
@@ -667,12 +664,12 @@ public final class LostRoom {
                 if (canFollow(set, t)) orders[set] += orders[set | 1 << t];
             }
         }
-        return orders;
+        return orders[0];
     }
 
-    private int firstToFollow(int set, int[] orders) {
+    private int firstToFollow(int set) {
         for (int t = 0; t < house.trunkCount; t++) {
-            if (canFollow(set, t) && orders[set | 1 << t] > 0) return t;
+            if (canFollow(set, t)) return t;
         }
         return NONE;
     }
@@ -693,17 +690,17 @@ public final class LostRoom {
     }
 
     /** For each LINE the TRUNKS (bits) that it FITS. */
-    private int[] lineFits() {
+    private int[] trunksForLines() {
         int[] fitting = new int[lineCount];
         for (int l = 0; l < lineCount; l++) {
             for (int t = 0; t < house.trunkCount; t++) {
-                if (lineFits(lines[l], t)) fitting[l] |= 1 << t;
+                if (fitsTrunk(lines[l], t)) fitting[l] |= 1 << t;
             }
         }
         return fitting;
     }
 
-    private boolean lineFits(Line one, int t) {
+    private boolean fitsTrunk(Line one, int t) {
         int all = 0;
         for (int i = 0; i < thingCount; i++) {
             Thing lying = things[i];
@@ -714,7 +711,10 @@ public final class LostRoom {
         return all == one.size;
     }
 
-    /** READINGS by the TRUNKS that LINES fit; the table counts, for a set of TRUNKS, how the first LINES have just those. */
+    /**
+     * How many READINGS there are by the TRUNKS that each LINE FITS. The table counts, for a set of n TRUNKS, in how
+     * many ways the first n LINES have just those.
+     */
     private int readingsBy(int[] fitting, int[] table) {
         Arrays.fill(table, 0);
         table[0] = 1;
@@ -1076,8 +1076,7 @@ public final class LostRoom {
         private int open(int t, int used) {
             int set = (1 << lodgerCount) - 1 & ~used;
             Trunk one = trunks[t];
-            int near = (one.below | one.above) & (1 << t) - 1;
-            for (int i = 0; i < t && near >> i != 0; i++) {
+            for (int i = 0; i < t; i++) {
                 if (has(one.below, i)) set &= notEarlier[chosen[i]];
                 if (has(one.above, i)) set &= notLater[chosen[i]];
             }
@@ -1215,6 +1214,7 @@ public final class LostRoom {
         private int[] lasts;
         /** By a set of TICKETS: the first year in which such a journey can be over. */
         private int[] over;
+        /** By a set of TICKETS: the fewest TRAVELLERS that make them. */
         private int[] people;
 
         /** How many TICKETS there are in a set of THINGS; only the first TICKETS of them are kept. */
@@ -1236,14 +1236,10 @@ public final class LostRoom {
 
         int fewestPeople() {
             findLasts();
-            people[0] = 0;
             for (int set = 1; set < 1 << size; set++) {
                 people[set] = size;
-                // the part that the lowest TICKET is of comes off first
-                int lowest = set & -set;
                 for (int part = set; part > 0; part = part - 1 & set) {
-                    if ((part & lowest) == 0 || lasts[part] == 0) continue;
-                    people[set] = Math.min(people[set], people[set & ~part] + 1);
+                    if (lasts[part] != 0) people[set] = Math.min(people[set], people[set & ~part] + 1);
                 }
             }
             return people[(1 << size) - 1];

@@ -7,6 +7,7 @@ public final class BitsTest {
         joins();
         sheets();
         firstRow();
+        afterBooks();
         ten();
         Check.end();
     }
@@ -91,6 +92,22 @@ public final class BitsTest {
         Check.due("two sheets of four", wide.sheets(0), 2);
         Check.rowIs(wide, "two sheets of four", 0, 0, 1, 3, 2);
         Check.due("rows of four", wide.laid(), 8);
+    }
+
+    private static void afterBooks() {
+        LostRoom x = new LostRoom();
+        x.bit(1, 1, 0, 500);
+        x.bit(1, 1, 500, 0);
+        Check.due("laid first", x.laid(), 1);
+        x.text(0, 0);
+        x.book(0);
+        Check.due("laid of none", x.laid(), 1);
+        x.bit(1, 1, 0, 0);
+        x.bit(1, 1, 0, 0);
+        Check.due("laid of the new ones", x.laid(), 2);
+        Check.due("sheets of the new ones", x.sheets(0), 2);
+        x.bit(1, 1, 0, 0);
+        Check.due("one more", x.laid(), 6);
     }
 
     private static void ten() {

@@ -76,6 +76,12 @@ public final class BookTest {
         fault("l1-2s3t45h5", 8);
         fault("l1-2s3t4h0", 9);
         fault("l1-2s3t4h:", 9);
+        fault("l1-2s:t4h5", 5);
+        fault("l1-2s3t:h5", 7);
+        fault("l:-2s3t4h5", 1);
+        fault("l1-:s3t4h5", 3);
+        fault("l1:-2s3t4h5", 2);
+        fault("l1/-2s3t4h5", 2);
         fault("l1-2s3t4h/", 9);
         fault("l1-2s3t4h55", 10);
         fault("l1+2s3t4h5", 2);

@@ -9,6 +9,7 @@ public final class ClaimsTest {
         judge();
         judgeByLooks();
         heir();
+        heirOfOne();
         heirTies();
         Check.end();
     }
@@ -146,6 +147,17 @@ public final class ClaimsTest {
         Check.due("none at least", x.heir(0, 0), BAD);
         Check.due("25 at least", x.heir(0, 25), BAD);
         Check.due("24 at least", x.heir(0, 24), NONE);
+    }
+
+    private static void heirOfOne() {
+        LostRoom x = room();
+        claim(x, 3, 0, 1, 3);
+        Check.due("one claim", x.heir(0, 1), 3);
+        Check.due("one mark", x.asked(), 1);
+        claim(x, 2, 1, 1, 3);
+        x.lies(0, 1, false);
+        Check.due("none there now", x.heir(0, 1), NONE);
+        Check.due("but there", x.heir(1, 1), 2);
     }
 
     private static void heirTies() {

@@ -7,6 +7,7 @@ public final class OwnersTest {
         mayByMarks();
         fewest();
         fewestFirst();
+        fewestIsFewer();
         fits();
         opens();
         strange();
@@ -98,6 +99,18 @@ public final class OwnersTest {
         z.thing(4, 0, 7, 2, 3);
         Check.due("two of unlike towns", z.fewest(), 2);
         Check.due("6 is ahead of 9", z.asked(), 6);
+    }
+
+    /** Two by lower bits could have owned all, but one alone could, too. */
+    private static void fewestIsFewer() {
+        LostRoom x = Check.roomBy("l0-9s1t1h1 l10-19s1t1h1 l5-15s1t1h1");
+        x.thing(5, 5, 9, 1111, 0);
+        x.thing(5, 10, 15, 1111, 0);
+        Check.due("one alone", x.fewest(), 1);
+        Check.due("the third", x.asked(), 4);
+        x.thing(5, 19, 19, 1111, 0);
+        Check.due("with another", x.fewest(), 2);
+        Check.due("0 and 1", x.asked(), 3);
     }
 
     private static void fits() {

@@ -9,6 +9,7 @@ public final class SharingsTest {
         noSharing();
         noTrunks();
         afterChanges();
+        afterBooks();
         sure();
         next();
         moves();
@@ -141,6 +142,35 @@ public final class SharingsTest {
         y.lies(0, 1, false);
         Check.due("and now one", y.share(0), 1);
         Check.rowIs(y, "and now one", 0, 1, 0);
+    }
+
+    /** What is left of one BOOK does not reach the next one, nor of one call the next. */
+    private static void afterBooks() {
+        String down = "l0-40s1t1h1 l0-30s1t1h1 l0-20s1t1h1 k1111^0 k1111^0 u1/0";
+        LostRoom x = Check.roomBy("l0-40s1t1h1 l0-40s1t1h1 l0-40s1t1h1 k1111^0 k1111^0 u1/0");
+        Check.due("whose of alike", x.whose(0, 0), 7);
+        Check.text(x, 0, down);
+        x.book(0);
+        Check.due("whose of the next book", x.whose(0, 0), 3);
+        Check.due("ways of the next book", x.ways(0), 3);
+        Check.text(x, 0, down.replace("u1/0", "u0/1"));
+        x.book(0);
+        Check.due("whose of a third book", x.whose(0, 0), 6);
+        Check.due("ways of a third book", x.ways(0), 3);
+        LostRoom y = Check.roomBy(down);
+        Check.due("share first", y.share(0), 0);
+        Check.row(y, 1, 2, 1);
+        Check.finds(y, "what an earlier call chose is no matter", 0, y.moves(1, 2), 3);
+        Check.row(y, 1, 0, 2);
+        Check.due("nor here", y.moves(1, 2), 0);
+        LostRoom z = Check.roomBy(down);
+        Check.row(z, 1, 1, 2);
+        Check.due("moves first", z.moves(1, 2), 0);
+        LostRoom s = Check.roomBy(down);
+        Check.due("sure first", s.sure(0), 0);
+        LostRoom n = Check.roomBy(down);
+        Check.due("next first", n.next(0), 0);
+        Check.due("two of three", n.asked(), 2);
     }
 
     private static void sure() {

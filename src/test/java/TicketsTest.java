@@ -42,6 +42,9 @@ public final class TicketsTest {
         Check.due("later", tickets(new int[] {0, 9, 1, 2}, new int[] {20, 29, 2, 3}).travellers(), 1);
         Check.due("earlier", tickets(new int[] {20, 29, 1, 2}, new int[] {0, 19, 2, 3}).travellers(), 2);
         Check.due("in the same year", tickets(new int[] {20, 29, 1, 2}, new int[] {0, 20, 2, 3}).travellers(), 1);
+        Check.due("in year 0", tickets(new int[] {0, 0, 1, 2}, new int[] {0, 0, 2, 3}).travellers(), 1);
+        Check.due("in year 99", tickets(new int[] {99, 99, 1, 2}, new int[] {0, 99, 2, 3}).travellers(), 1);
+        Check.due("by town 9", tickets(new int[] {0, 9, 9, 8}, new int[] {0, 9, 8, 9}, new int[] {0, 9, 9, 1}).travellers(), 1);
         // each fits behind the one ahead of it, but the third can't be as late as the first
         LostRoom x = tickets(new int[] {20, 29, 1, 2}, new int[] {0, 99, 2, 3}, new int[] {10, 19, 3, 4});
         Check.due("years of all three", x.journey(7), 0);

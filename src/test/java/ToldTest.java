@@ -109,6 +109,11 @@ public final class ToldTest {
         x.text(2, 0);
         int[] want = {1, 2, 3, 2, 2, 4, 5, 2, 2};
         for (int what = 0; what < want.length; what++) Check.due("count " + what, x.count(what), want[what]);
+        LostRoom y = Check.roomBy("k1111^0");
+        y.thing(2, 0, 9, 1, 1);
+        Check.due("one letter", y.count(3), 1);
+        y.thing(4, 0, 9, 1, 2);
+        Check.due("a ticket is no letter", y.count(3), 1);
         Check.due("count 9", x.count(9), BAD);
         Check.due("count -1", x.count(-1), BAD);
         x.tear(3);
