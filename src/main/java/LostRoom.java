@@ -1132,15 +1132,10 @@ public final class LostRoom {
         /** By a BIT: BITS (bits) that it JOINS. */
         private final int[] joined = new int[BITS];
         /** By slot: the fewest SHEETS that the BITS not yet laid begin, and in how many rows. */
-        private int[] sheets, ways;
+        private final int[] sheets = new int[(1 << BITS) * BITS], ways = new int[(1 << BITS) * BITS];
 
         void gather(Bit[] bits, int bitCount) {
             size = bitCount;
-            // made late: most rooms have no BITS
-            if (sheets == null || ways == null) {
-                sheets = new int[(1 << BITS) * BITS];
-                ways = new int[(1 << BITS) * BITS];
-            }
             for (int i = 0; i < size; i++) {
                 joined[i] = 0;
                 for (int j = 0; j < size; j++) {
@@ -1211,11 +1206,11 @@ public final class LostRoom {
         /** By a TICKET: those (bits) that went to where it is from. */
         private final int[] ahead = new int[TICKETS];
         /** By a set of TICKETS: those (bits) that can be the last of one journey by them all. */
-        private int[] lasts;
+        private final int[] lasts = new int[1 << TICKETS];
         /** By a set of TICKETS: the first year in which such a journey can be over. */
-        private int[] over;
+        private final int[] over = new int[1 << TICKETS];
         /** By a set of TICKETS: the fewest TRAVELLERS that make them. */
-        private int[] people;
+        private final int[] people = new int[1 << TICKETS];
 
         /** How many TICKETS there are in a set of THINGS; only the first TICKETS of them are kept. */
         int gather(Thing[] things, int thingCount, int set) {
@@ -1246,11 +1241,6 @@ public final class LostRoom {
         }
 
         private void findLasts() {
-            if (lasts == null || over == null || people == null) {
-                lasts = new int[1 << TICKETS];
-                over = new int[1 << TICKETS];
-                people = new int[1 << TICKETS];
-            }
             findAhead();
             for (int set = 1; set < 1 << size; set++) {
                 lasts[set] = 0;
