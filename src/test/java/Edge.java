@@ -49,10 +49,15 @@ final class Edge {
     }
 
     static void of(String sentence, String... steps) {
-        if (DOCUMENT != null) Check.due("the document says: " + sentence, DOCUMENT.contains(sentence) ? 1 : 0, 1);
-        Edge edge = new Edge(sentence);
+        Edge edge = new Edge(said(sentence));
         for (String step : steps) edge.step(step);
         Check.due(sentence + ": calls of one room beyond " + CALLS, Math.max(0, edge.calls - CALLS), 0);
+    }
+
+    /** A sentence as a test tells of it; the document, where it is at hand, must have it so. */
+    static String said(String sentence) {
+        if (DOCUMENT != null) Check.due("the document says: " + sentence, DOCUMENT.contains(sentence) ? 1 : 0, 1);
+        return "\"" + sentence + "\"";
     }
 
     /** The document with single blanks, or null where it is not at hand. */
@@ -170,6 +175,6 @@ final class Edge {
     }
 
     private void due(String what, long got, long want) {
-        Check.due("\"" + sentence + "\": " + what, got, want);
+        Check.due(sentence + ": " + what, got, want);
     }
 }

@@ -29,7 +29,7 @@ public final class EdgesOfBitsTest {
     private static void bit(String sentence, int hand, int fold, int left, int right) {
         boolean goes = in(hand, 1, 9) && in(fold, 0, 9) && in(left, 0, 999) && in(right, 0, 999);
         LostRoom x = new LostRoom();
-        String call = "\"" + sentence + "\": bit " + hand + " " + fold + " " + left + " " + right;
+        String call = Edge.said(sentence) + ": bit " + hand + " " + fold + " " + left + " " + right;
         Check.due(call, x.bit(hand, fold, left, right), goes ? 0 : BAD);
         Check.due(call + ", then bits", x.count(5), goes ? 1 : 0);
     }
@@ -45,6 +45,7 @@ public final class EdgesOfBitsTest {
     }
 
     private static void tenBits() {
+        Edge.of("A BIT: its number. BAD; FULL.", "bit 1 0 0 0 = 0", "bit 1 0 0 0 = 1", "bit 0 0 0 0 = BAD", "bit 1 0 0 0 = 2");
         Edge.of("BITS 0, 1, .. (10 at most)", "9 x bit 1 0 0 0", "bit 9 9 999 999 = 9", "count 5 = 10", "bit 1 0 0 0 = FULL",
             "bit 0 0 0 0 = BAD", "bit 10 0 0 0 = BAD", "bit 1 -1 0 0 = BAD", "bit 1 10 0 0 = BAD", "bit 1 0 -1 0 = BAD", "bit 1 0 1000 0 = BAD",
             "bit 1 0 0 -1 = BAD", "bit 1 0 0 1000 = BAD", "joins 9 0 = 0", "joins 10 0 = BAD", "joins 0 10 = BAD", "text 0 0 = 0",
@@ -58,7 +59,7 @@ public final class EdgesOfBitsTest {
             LostRoom x = new LostRoom();
             x.bit(1, 0, 0, right);
             x.bit(1, 0, left, 0);
-            String call = "\"" + sentence + "\": " + right + " and " + left;
+            String call = Edge.said(sentence) + ": " + right + " and " + left;
             Check.due(call, x.joins(0, 1), right + left == 1000 ? 1 : 0);
             Check.due(call + ", the other way", x.joins(1, 0), 0);
             Check.due(call + ", sheets", x.sheets(0), right + left == 1000 ? 1 : 2);
@@ -72,7 +73,7 @@ public final class EdgesOfBitsTest {
             LostRoom x = new LostRoom();
             x.bit(5, 5, 0, 300);
             x.bit(hand, fold, 700, 0);
-            Check.due("\"HANDS and FOLDS alike\": " + hand + " " + fold, x.joins(0, 1), hand == 5 && fold == 5 ? 1 : 0);
+            Check.due(Edge.said("HANDS and FOLDS alike") + ": " + hand + " " + fold, x.joins(0, 1), hand == 5 && fold == 5 ? 1 : 0);
         }
     }
 
@@ -98,6 +99,9 @@ public final class EdgesOfBitsTest {
         // a round: each JOINS the next one, the last one the first
         Edge.of(sentence, "bit 1 0 200 100 = 0", "bit 1 0 900 300 = 1", "bit 1 0 700 800 = 2", "joins 0 1 = 1", "joins 1 2 = 1", "joins 2 0 = 1",
             "sheets 0 = 1", "ints 0 is 0 1 2", "laid = 3");
+        // BITS of an earlier BOOK are no matter
+        Edge.of(sentence, "bit 1 0 0 500 = 0", "bit 1 0 500 0 = 1", "sheets 0 = 1", "text 0 0 = 0", "book 0 = 0", "bit 1 0 0 0 = 0", "bit 1 0 0 0 = 1",
+            "sheets 0 = 2", "laid = 2");
         // one way only: the second ahead of the first
         Edge.of(sentence, "bit 1 0 600 0 = 0", "bit 1 0 0 400 = 1", "joins 0 1 = 0", "joins 1 0 = 1", "sheets 0 = 1", "ints 0 is 1 0", "laid = 1");
     }
@@ -159,9 +163,10 @@ public final class EdgesOfBitsTest {
                 }
                 if (begun == fewest) all++;
             }
-            Check.due("sheets of code " + code, x.sheets(0), fewest);
-            Check.due("laid of code " + code, x.laid(), all);
-            Check.rowIs(x, "sheets of code " + code, 0, first);
+            String call = Edge.said("The fewest SHEETS of all BITS LAID side by side") + ": code " + code;
+            Check.due(call, x.sheets(0), fewest);
+            Check.due(call + ", rows", x.laid(), all);
+            Check.rowIs(x, call, 0, first);
         }
     }
 }

@@ -37,9 +37,9 @@ public final class EdgesOfBooksTest {
         LostRoom x = new LostRoom();
         x.text(0, signs.length());
         for (int i = 0; i < signs.length(); i++) x.put(0, i, signs.charAt(i));
-        Check.due("\"" + sentence + "\": fault of '" + signs + "'", x.fault(0), want);
+        Check.due(Edge.said(sentence) + ": fault of '" + signs + "'", x.fault(0), want);
         int stands = x.book(0);
-        Check.due("\"" + sentence + "\": book of '" + signs + "'", stands == STATE ? 1 : stands >= 0 ? 0 : stands, want == NONE ? 0 : 1);
+        Check.due(Edge.said(sentence) + ": book of '" + signs + "'", stands == STATE ? 1 : stands >= 0 ? 0 : stands, want == NONE ? 0 : 1);
     }
 
     private static void blanks() {
@@ -219,7 +219,8 @@ public final class EdgesOfBooksTest {
         LostRoom x = new LostRoom();
         x.text(0, signs.length());
         for (int i = 0; i < signs.length(); i++) x.put(0, i, i == place ? v : signs.charAt(i));
-        Check.due("a figure that is none such: byte " + v + " at place " + place + " of '" + signs + "'", x.fault(0), want);
+        String call = Edge.said("a figure that is none such: its place") + ": byte " + v + " at place " + place + " of '" + signs + "'";
+        Check.due(call, x.fault(0), want);
     }
 
     private static boolean figure(int v, int low, int high) {
@@ -328,8 +329,8 @@ public final class EdgesOfBooksTest {
             "lies 0 1 true = 1", "trunk 0 0 tells 1111", "trunk 0 1 tells 0", "trunk 0 2 tells 6", "trunk 0 3 tells 0",
             "trunk 1 0 tells 5555", "trunk 1 1 tells 9", "trunk 1 2 tells 4", "trunk 1 3 tells 1", "trunk 2 2 tells 2",
             "lies 1 1 false = 1", "trunk 1 3 tells 2", "lies 0 NONE false = 1", "trunk 1 3 tells 1");
-        Edge.of(sentence, "house 'k1111^0 k1111^0 k1111^0'", "trunk 2 0 tells 1111", "trunk 3 0 = BAD", "trunk -1 0 = BAD", "trunk 0 4 = BAD", "trunk 0 -1 = BAD", "trunk NONE 3 = BAD", "trunk MOST 0 = BAD", "trunk LEAST 0 = BAD",
-            "trunk 0 MOST = BAD", "trunk 0 LEAST = BAD");
+        Edge.of(sentence, "house 'k1111^0 k1111^0 k1111^0'", "trunk 2 0 tells 1111", "trunk 3 0 = BAD", "trunk -1 0 = BAD", "trunk 0 4 = BAD",
+            "trunk 0 -1 = BAD", "trunk NONE 3 = BAD", "trunk MOST 0 = BAD", "trunk LEAST 0 = BAD", "trunk 0 MOST = BAD", "trunk 0 LEAST = BAD");
         Edge.of(sentence, "trunk 0 0 = BAD", "house 'l0-9s1t1h1'", "trunk 0 0 = BAD", "house 'k1111^0'", "20 x thing 5 0 9 1111 0",
             "trunk 0 3 tells 0", "lies 19 0 true = 1", "trunk 0 3 tells 1");
         Edge.of("2 TRUNKS that stand on it (bits)", "house 'k1111^0k1111^0k1111^0k1111^0k1111^0k1111^0k1111^0k1111^0u7/0u7/6u0/7u0/7'",

@@ -30,7 +30,7 @@ public final class EdgesOfListsTest {
         for (int n : sizes) for (int a : years) for (int b : years) {
             LostRoom x = new LostRoom();
             boolean goes = in(n, 0, 20) && in(a, 0, 99) && in(b, 0, 99) && a <= b;
-            String call = "\"" + sentence + "\": line " + n + " " + a + " " + b;
+            String call = Edge.said(sentence) + ": line " + n + " " + a + " " + b;
             Check.due(call, x.line(n, a, b), goes ? 0 : BAD);
             Check.due(call + ", then lines", x.count(4), goes ? 1 : 0);
         }
@@ -78,8 +78,8 @@ public final class EdgesOfListsTest {
             x.thing(5, 10, 20, 1111, 0);
             x.lies(0, 0, false);
             x.line(1, a, b);
-            Check.due("\"the years of each meet it\": " + a + " to " + b, x.readings(), meet ? 1 : 0);
-            Check.due("\"the years of each meet it\": line of " + a + " to " + b, x.lineOf(0), meet ? 1 : 0);
+            Check.due(Edge.said("the years of each meet it") + ": " + a + " to " + b, x.readings(), meet ? 1 : 0);
+            Check.due(Edge.said("the years of each meet it") + ": line of " + a + " to " + b, x.lineOf(0), meet ? 1 : 0);
         }
         Edge.of("the years of each meet it", "house 'k1111^0k1111^0'", "thing 5 0 0 1111 0 = 0", "thing 5 99 99 1111 0 = 1",
             "lies 0 0 false = 1", "lies 1 1 false = 1", "line 1 0 0 = 0", "lineOf 0 = 1", "line 1 99 99 = 1", "lineOf 1 = 2", "readings = 1",
@@ -99,7 +99,7 @@ public final class EdgesOfListsTest {
                 x.lies(0, 0, false);
                 x.lies(1, 0, true);
                 x.line(2, a, b);
-                Check.due("\"the years of each meet it\": two, " + a + " to " + b, x.lineOf(0), goes ? 1 : 0);
+                Check.due(Edge.said("the years of each meet it") + ": two, " + a + " to " + b, x.lineOf(0), goes ? 1 : 0);
             }
         }
     }
@@ -155,8 +155,9 @@ public final class EdgesOfListsTest {
                 all++;
                 for (int l = 0; l < 3; l++) some[l] |= 1 << given[l];
             }
-            Check.due("readings of three lines", x.readings(), all);
-            for (int l = 0; l < 3; l++) Check.due("trunks of line " + l + " of three", x.lineOf(l), some[l]);
+            String call = Edge.said("A READING of the LIST gives each LINE a TRUNK that it FITS");
+            Check.due(call + ": three lines", x.readings(), all);
+            for (int l = 0; l < 3; l++) Check.due(call + ": line " + l + " of three", x.lineOf(l), some[l]);
         }
     }
 }

@@ -46,7 +46,7 @@ public final class EdgesOfOwnersTest {
                 for (int year = 0; year <= 99; year++) meet |= a <= year && year <= b && who[0] <= year && year <= who[1];
                 LostRoom x = room(book);
                 x.thing(5, a, b, 1111, 0);
-                Check.due("\"" + sentence + "\": " + book + ", key of " + a + " to " + b, x.may(0), meet ? 1 : 0);
+                Check.due(Edge.said(sentence) + ": " + book + ", key of " + a + " to " + b, x.may(0), meet ? 1 : 0);
             }
         }
         Edge.of(sentence, "house 'l10-20s1t1h1 l21-30s1t1h1'", "thing 5 0 9 1111 0 = 0", "thing 5 0 10 1111 0 = 1",
@@ -68,7 +68,7 @@ public final class EdgesOfOwnersTest {
             x.thing(1, 0, 9, cloth, 0);
             x.thing(1, 10, 10, cloth, 0);
             int off = Math.max(size, cloth) - Math.min(size, cloth);
-            String call = "\"a CLOTH's SIZE differs from his by 1 at most\": " + cloth + " of " + size;
+            String call = Edge.said("a CLOTH's SIZE differs from his by 1 at most") + ": " + cloth + " of " + size;
             Check.due(call, x.may(0), off <= 1 ? 1 : 0);
             Check.due(call + ", of a later year", x.may(1), 0);
         }
@@ -82,7 +82,7 @@ public final class EdgesOfOwnersTest {
             if ((town == 0 || town == 4) && hand != 6) want |= 1;
             if ((town == 0 || town == 4) && hand != 4) want |= 2;
             if ((town == 0 || town == 6) && hand != 6) want |= 4;
-            Check.due("\"a LETTER's TOWN is his, or 0, and its HAND is not his\": " + town + " " + hand, x.may(0), want);
+            Check.due(Edge.said("a LETTER's TOWN is his, or 0, and its HAND is not his") + ": " + town + " " + hand, x.may(0), want);
         }
     }
 
@@ -91,7 +91,7 @@ public final class EdgesOfOwnersTest {
             LostRoom x = room("l0-9s1t4h6 l0-9s1t6h4 l10-19s1t4h1");
             x.thing(3, 0, 9, 10 * town + hand, who);
             boolean goes = who == 0 && (town == 0 || town == 4) && hand != 6 || who == 1 && (town == 0 || town == 6) && hand != 4;
-            String call = "\"of a NAMED one just he to whom it is (and as a LETTER)\": " + town + " " + hand + " to " + who;
+            String call = Edge.said("of a NAMED one just he to whom it is (and as a LETTER)") + ": " + town + " " + hand + " to " + who;
             Check.due(call, x.may(0), goes ? 1 << who : 0);
         }
     }
@@ -105,7 +105,7 @@ public final class EdgesOfOwnersTest {
             if (from == 1 || to == 1) want |= 1;
             if (from == 5 || to == 5) want |= 2;
             if (from == 9 || to == 9) want |= 4;
-            Check.due("\"a TICKET is from or to his TOWN\": " + from + " to " + to, x.may(0), want);
+            Check.due(Edge.said("a TICKET is from or to his TOWN") + ": " + from + " to " + to, x.may(0), want);
         }
     }
 
@@ -129,6 +129,9 @@ public final class EdgesOfOwnersTest {
         Edge.of(sentence, "house 'l0-9s1t1h1 l5-14s1t1h1 l10-19s1t1h1'", "thing 5 9 9 1111 0 = 0", "fewest = 1 tells 1",
             "thing 5 10 10 1111 0 = 1", "fewest = 1 tells 2", "thing 5 0 0 1111 0 = 2", "fewest = 2 tells 3", "thing 5 19 19 1111 0 = 3",
             "fewest = 2 tells 5");
+        // 0 and 1 could have owned both, but 2 alone could, too
+        Edge.of(sentence, "house 'l0-9s1t1h1 l10-19s1t1h1 l5-15s1t1h1'", "thing 5 9 9 1111 0 = 0", "thing 5 10 10 1111 0 = 1", "fewest = 1 tells 4",
+            "thing 5 0 0 1111 0 = 2", "fewest = 2 tells 3", "book 3 = 0", "thing 5 9 10 1111 0 = 0", "fewest = 1 tells 1");
     }
 
     private static void fewestOfEight() {
@@ -181,7 +184,7 @@ public final class EdgesOfOwnersTest {
                 x.wear(wear);
                 int want = 0;
                 for (int t = 0; t < locks.length; t++) if (opens(key, locks[t], wear)) want |= 1 << t;
-                Check.due("\"" + sentence + "\": key " + key + " by wear " + wear, x.opens(0), want);
+                Check.due(Edge.said(sentence) + ": key " + key + " by wear " + wear, x.opens(0), want);
             }
         }
     }
@@ -281,7 +284,8 @@ public final class EdgesOfOwnersTest {
                 if (least == NONE) least = h;
                 greatest = h;
             }
-            String call = "\"A LINE of water h (0 .. 10) FITS\": wet at " + wet + ", dry at " + dry;
+            String sentence = "A LINE of water h (0 .. 10) FITS, if each WET THING that lies in a TRUNK does so in one of a HEIGHT below h";
+            String call = Edge.said(sentence) + ": wet at " + wet + ", dry at " + dry;
             Check.due(call, x.water(), least);
             Check.due(call + ", greatest", x.asked(), least == NONE ? 0 : greatest);
         }
@@ -326,8 +330,9 @@ public final class EdgesOfOwnersTest {
             List<List<Integer>> orders = new ArrayList<>();
             orders(new ArrayList<>(), told, orders);
             LostRoom x = room(book.toString());
-            Check.due("piling of " + book, x.piling(0), orders.isEmpty() ? NONE : orders.size());
-            if (!orders.isEmpty()) Check.rowIs(x, "piling of " + book, 0, orders.get(0).stream().mapToInt(t -> t).toArray());
+            String call = Edge.said("a row of all in which each comes behind those on which it stands") + ": piling of " + book;
+            Check.due(call, x.piling(0), orders.isEmpty() ? NONE : orders.size());
+            if (!orders.isEmpty()) Check.rowIs(x, call, 0, orders.get(0).stream().mapToInt(t -> t).toArray());
         }
     }
 

@@ -9,6 +9,7 @@ public final class EdgesOfSharingsTest {
     public static void main(String[] args) {
         noTwoTheSame();
         leftNoEarlier();
+        leftNoEarlierAnew();
         leftNoEarlierOfAll();
         eachThing();
         mayNot();
@@ -32,6 +33,14 @@ public final class EdgesOfSharingsTest {
         Check.end();
     }
 
+    /** Years of an earlier BOOK are no matter. */
+    private static void leftNoEarlierAnew() {
+        String sentence = "so that who has one that stands on another one left (b) no earlier than who has that";
+        Edge.of(sentence, "house 'l0-9s1t1h1l0-9s1t1h1k1111^0k1111^0u0/1'", "ways 0 = 2", "house 'l0-9s1t1h1l0-8s1t1h1k1111^0k1111^0u0/1'",
+            "ways 0 = 1", "whose 0 0 = 2", "house 'l0-8s1t1h1l0-9s1t1h1k1111^0k1111^0u0/1'", "ways 0 = 1", "whose 0 0 = 1",
+            "house 'l0-8s1t1h1l0-9s1t1h1k1111^0k1111^0u1/0'", "ways 0 = 1", "whose 0 0 = 2", "share 0 = 0", "ints 0 is 1 0");
+    }
+
     private static void noTwoTheSame() {
         String sentence = "A SHARING gives each TRUNK a LODGER, no two the same one";
         int[][] ways = {{1, 0, 0, 0}, {1, 1, 0, 0}, {1, 2, 2, 0}, {1, 3, 6, 6}};
@@ -43,7 +52,7 @@ public final class EdgesOfSharingsTest {
         Edge.of(sentence, "house '" + "l0-9s1t1h1".repeat(7) + "k1111^0".repeat(7) + "'", "ways 0 = 5040", "share 0 = 0",
             "ints 0 is 0 1 2 3 4 5 6", "whose 6 0 = 127", "sure 0 = 127 tells 127", "next 0 = 0 tells 720");
         Edge.of(sentence, "house '" + "l0-9s1t1h1".repeat(8) + "k1111^0".repeat(5) + "'", "ways 0 = 6720", "share 0 = 0",
-            "ints 0 is 0 1 2 3 4", "whose 4 0 = 255", "sure 0 = 0 tells 255", "next 0 = 0 tells 840");
+            "ints 0 is 0 1 2 3 4", "whose 0 0 = 255", "whose 4 0 = 255", "sure 0 = 0 tells 255", "next 0 = 0 tells 840");
         Edge.of(sentence, "house '" + "k1111^0".repeat(8) + "'", "ways 20 = 0", "share 0 = NONE");
         Edge.of(sentence, "house 'l0-9s1t1h1" + "k1111^0".repeat(8) + "'", "ways 20 = 0", "share 0 = NONE");
     }
@@ -71,6 +80,7 @@ public final class EdgesOfSharingsTest {
             StringBuilder book = new StringBuilder("l0-20s1t1h1 l0-30s1t1h1 l0-30s1t1h1 l0-10s1t1h1 k1111^0k1111^0k1111^0");
             for (int u : told) if (u / 3 != u % 3) book.append('u').append(u / 3).append('/').append(u % 3);
             int all = 0;
+            String call = Edge.said("who has one that stands on another one left (b) no earlier than who has that") + ": " + book;
             LostRoom x = Check.roomBy(book.toString());
             for (int row = 0; row < 64; row++) {
                 int[] given = {row / 16, row / 4 % 4, row % 4};
@@ -78,9 +88,9 @@ public final class EdgesOfSharingsTest {
                 for (int u : told) if (u / 3 != u % 3) goes &= left[given[u % 3]] >= left[given[u / 3]];
                 if (goes) all++;
                 Check.row(x, 0, given);
-                Check.due("moves of " + row + " by " + book, x.moves(0, 1), goes ? 0 : LostRoom.FINDING);
+                Check.due(call + ", row " + row, x.moves(0, 1), goes ? 0 : LostRoom.FINDING);
             }
-            Check.due("ways of " + book, x.ways(0), all);
+            Check.due(call, x.ways(0), all);
         }
     }
 
@@ -185,6 +195,9 @@ public final class EdgesOfSharingsTest {
         Edge.of(sentence, "house 'l0-9s1t1h1 l0-9s5t1h1 l0-9s9t1h1 k1111^0 k1111^0 k1111^0'", "thing 1 0 9 9 0 = 0", "lies 0 0 false = 1",
             "next 0 = 1 tells 1", "lies 0 1 false = 1", "next 0 = 0 tells 1", "lies 0 2 false = 1", "next 0 = 0 tells 1",
             "next 1 = 0 tells 2");
+        // with all eight LODGERS: TRUNK 1 is sure, 0 and 2 are each of seven's in 6 of 42
+        Edge.of(sentence, "house '" + "l0-9s9t1h1" + "l0-9s1t1h1".repeat(7) + "k1111^0k1111^0k1111^0'", "thing 1 0 9 9 0 = 0", "lies 0 1 false = 1",
+            "ways 0 = 42", "ways 1 = 126", "next 0 = 0 tells 6", "whose 0 0 = 254", "whose 1 0 = 1", "whose 2 0 = 254", "sure 0 = 1 tells 255");
         // in four SHARINGS TRUNK 0 is one's in two, TRUNK 1 one's in two
         Edge.of(sentence, "house 'l0-9s1t1h1 l0-9s5t1h1 l0-8s5t1h1 k1111^0 k1111^0 u0/1'", "ways 0 = 4", "next 0 = 0 tells 2");
         // in three SHARINGS TRUNK 0 is each of two's in two and one, TRUNK 1 likewise
@@ -205,8 +218,8 @@ public final class EdgesOfSharingsTest {
 
     private static void nextNone() {
         String sentence = "NONE: there is no SHARING OF m, no TRUNK. BAD.";
-        Edge.of(sentence, "next 0 = NONE", "next 21 = BAD", "next -1 = BAD", "house 'l0-9s1t1h1'", "next 0 = NONE", "house 'k1111^0'",
-            "next 20 = NONE", "next 21 = BAD");
+        Edge.of(sentence, "next 0 = NONE", "next 21 = BAD", "next -1 = BAD", "house 'l0-9s1t1h1'", "next 0 = NONE", "lodger 0 1 tells 9",
+            "next 0 = NONE", "next 20 = NONE", "house 'k1111^0'", "next 20 = NONE", "trunk 0 0 tells 1111", "next 20 = NONE", "next 21 = BAD");
         Edge.of(sentence, ONE_WAY, "thing 5 9 9 1111 0 = 0", "lies 0 1 true = 1", "next 0 = NONE", "next 1 = 0 tells 1", "next 0 = NONE");
     }
 

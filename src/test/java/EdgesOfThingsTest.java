@@ -31,7 +31,7 @@ public final class EdgesOfThingsTest {
     private static void thing(String sentence, int kind, int a, int b, int x, int y, boolean goes) {
         LostRoom room = new LostRoom();
         write(room, "l0-9s1t1h1l0-9s1t1h1k1111^0");
-        String call = "\"" + sentence + "\": thing " + kind + " " + a + " " + b + " " + x + " " + y;
+        String call = Edge.said(sentence) + ": thing " + kind + " " + a + " " + b + " " + x + " " + y;
         Check.due(call, room.thing(kind, a, b, x, y), goes ? 0 : BAD);
         Check.due(call + ", then things", room.count(2), goes ? 1 : 0);
         if (!goes) return;
@@ -112,8 +112,8 @@ public final class EdgesOfThingsTest {
         for (int x = -5556; x <= 5600; x++) {
             LostRoom room = new LostRoom();
             boolean goes = x > 0 && Integer.toString(x).matches("[1-5]{4}");
-            Check.due("\"" + sentence + "\": key " + x, room.thing(5, 0, 9, x, 0), goes ? 0 : BAD);
-            if (goes) Check.due("\"" + sentence + "\": mark of key " + x, room.mark(0, 5), x);
+            Check.due(Edge.said(sentence) + ": key " + x, room.thing(5, 0, 9, x, 0), goes ? 0 : BAD);
+            if (goes) Check.due(Edge.said(sentence) + ": mark of key " + x, room.mark(0, 5), x);
         }
         int[] more = {11111, 55555, 12345, 111111, 1111 + 65536, Integer.MAX_VALUE, Integer.MIN_VALUE, Integer.MIN_VALUE + 1111};
         for (int x : more) thing(sentence, 5, 0, 9, x, 0, false);

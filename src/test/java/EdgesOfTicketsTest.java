@@ -29,7 +29,7 @@ public final class EdgesOfTicketsTest {
             if (from == to) continue;
             LostRoom x = tickets(new int[] {0, 9, 4, 6}, new int[] {0, 9, from, to});
             boolean one = from == 6 || to == 4;
-            String call = "\"" + sentence + "\": 4 to 6, " + from + " to " + to;
+            String call = Edge.said(sentence) + ": 4 to 6, " + from + " to " + to;
             Check.due(call, x.journey(3), one ? 1 : 0);
             Check.due(call + ", travellers", x.travellers(), one ? 1 : 2);
         }
@@ -41,12 +41,16 @@ public final class EdgesOfTicketsTest {
         String sentence = "years can be told so that none is earlier than the one ahead (each year within its TICKET's)";
         for (int a = 18; a <= 22; a++) for (int b = a; b <= 22; b++) {
             LostRoom x = tickets(new int[] {20, 21, 1, 2}, new int[] {a, b, 2, 3});
-            String call = "\"" + sentence + "\": 20 to 21, then " + a + " to " + b;
+            String call = Edge.said(sentence) + ": 20 to 21, then " + a + " to " + b;
             Check.due(call, x.journey(3), b >= 20 ? 1 : 0);
             Check.due(call + ", travellers", x.travellers(), b >= 20 ? 1 : 2);
         }
         Edge.of(sentence, "thing 4 99 99 1 2 = 0", "thing 4 0 98 2 3 = 1", "thing 4 0 99 2 4 = 2", "thing 4 0 0 5 1 = 3", "thing 4 99 99 4 5 = 4",
             "journey 3 = 0", "journey 5 = 1", "journey 9 = 1", "journey 21 = 1", "journey 29 = 1", "journey 25 = 0", "journey 13 = 1", "travellers = 2");
+        // one journey is no matter for the next one, nor one BOOK's for the next one's
+        Edge.of(sentence, "thing 4 50 50 1 2 = 0", "thing 4 50 50 2 1 = 1", "thing 4 0 9 1 2 = 2", "thing 4 0 9 2 1 = 3", "journey 3 = 1",
+            "journey 12 = 1", "journey 15 = 1", "journey 12 = 1", "travellers = 1", "text 0 0 = 0", "book 0 = 0", "thing 4 0 9 1 2 = 0",
+            "thing 4 0 9 3 1 = 1", "thing 4 0 9 2 3 = 2", "travellers = 1", "journey 3 = 1", "journey 7 = 1");
         // there and back: only one of the two rows goes by years
         Edge.of(sentence, "thing 4 20 20 1 2 = 0", "thing 4 19 19 2 1 = 1", "journey 3 = 1", "travellers = 1");
     }
@@ -56,12 +60,12 @@ public final class EdgesOfTicketsTest {
         String sentence = "years can be told so that none is earlier than the one ahead (each year within its TICKET's)";
         for (int last = 28; last <= 31; last++) {
             LostRoom x = tickets(new int[] {30, 40, 1, 2}, new int[] {0, 99, 2, 3}, new int[] {0, last, 3, 4});
-            Check.due("\"" + sentence + "\": 30, then any, then till " + last, x.journey(7), last >= 30 ? 1 : 0);
-            Check.due("\"" + sentence + "\": travellers till " + last, x.travellers(), last >= 30 ? 1 : 2);
+            Check.due(Edge.said(sentence) + ": 30, then any, then till " + last, x.journey(7), last >= 30 ? 1 : 0);
+            Check.due(Edge.said(sentence) + ": travellers till " + last, x.travellers(), last >= 30 ? 1 : 2);
         }
         for (int first = 48; first <= 51; first++) {
             LostRoom x = tickets(new int[] {first, 99, 1, 2}, new int[] {40, 50, 2, 3}, new int[] {50, 50, 3, 4});
-            Check.due("\"" + sentence + "\": from " + first + ", then till 50", x.journey(7), first <= 50 ? 1 : 0);
+            Check.due(Edge.said(sentence) + ": from " + first + ", then till 50", x.journey(7), first <= 50 ? 1 : 0);
         }
     }
 
@@ -137,8 +141,9 @@ public final class EdgesOfTicketsTest {
                 one |= second && told[row[1]][3] == told[row[2]][2] && year <= told[row[2]][1];
             }
             LostRoom x = tickets(told);
-            Check.due("journey of code " + code, x.journey(7), one ? 1 : 0);
-            Check.due("travellers of code " + code, x.travellers(), one ? 1 : two ? 2 : 3);
+            String call = Edge.said("one TICKET can come behind another one of the same TRAVELLER") + ": code " + code;
+            Check.due(call, x.journey(7), one ? 1 : 0);
+            Check.due(call + ", travellers", x.travellers(), one ? 1 : two ? 2 : 3);
         }
     }
 }

@@ -108,7 +108,7 @@ public final class EdgesOfToldTest {
         LostRoom x = new LostRoom();
         for (int n = 1; n <= 250; n++) {
             x.tear(0);
-            Check.due("\"" + sentence + "\": " + n + " times", x.findings(1), n);
+            Check.due(Edge.said(sentence) + ": " + n + " times", x.findings(1), n);
         }
     }
 
@@ -130,8 +130,8 @@ public final class EdgesOfToldTest {
     private static void mix(String what, LostRoom x, List<Integer> told) {
         BigInteger h = BigInteger.valueOf(17);
         for (int v : told) h = h.multiply(BigInteger.valueOf(31)).add(BigInteger.valueOf(v));
-        Check.due("\"h = 17; then h = 31 h + v for each v\": " + what, x.digest(), h.longValue());
-        Check.due("\"h = 17; then h = 31 h + v for each v\": " + what + ", again", x.digest(), h.longValue());
+        Check.due(Edge.said("h = 17; then h = 31 h + v for each v") + ": " + what, x.digest(), h.longValue());
+        Check.due(Edge.said("h = 17; then h = 31 h + v for each v") + ": " + what + ", again", x.digest(), h.longValue());
     }
 
     private static void add(List<Integer> told, int... values) {
@@ -233,8 +233,8 @@ public final class EdgesOfToldTest {
         x.lodger(0, 1);
         for (int n = 0; n < 3; n++) {
             x.digest();
-            Check.due("\"asked() stays\"", x.asked(), 22);
-            Check.due("\"asked() stays\", and finding()", x.finding(), 0);
+            Check.due(Edge.said("asked() stays"), x.asked(), 22);
+            Check.due(Edge.said("asked() stays") + ", and finding()", x.finding(), 0);
         }
     }
 
@@ -242,9 +242,9 @@ public final class EdgesOfToldTest {
         LostRoom x = new LostRoom();
         x.row(0, 48);
         for (int n = 2; n < 512; n++) x.lay(0, n % 48, n);
-        Check.due("\"An object is used for at most 512 calls after it has been made\": the last one", x.mean(0), 1);
+        Check.due(Edge.said("An object is used for at most 512 calls after it has been made") + ": the last one", x.mean(0), 1);
         LostRoom y = new LostRoom();
         for (int n = 1; n < 512; n++) y.tear(0);
-        Check.due("\"An object is used for at most 512 calls after it has been made\": the last one", y.findings(1), 511);
+        Check.due(Edge.said("An object is used for at most 512 calls after it has been made") + ": the last one", y.findings(1), 511);
     }
 }
